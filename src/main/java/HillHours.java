@@ -15,9 +15,9 @@ public final class HillHours {
     private static final int LEAST_INT = 1 << 31;
     private static final long LEAST_LONG = 1L << 63;
 
-    private final Ground ground = new Ground();
-    private final Sun sun = new Sun(ground);
-    private final Parting parting = new Parting(ground);
+    private final Sun sun = new Sun();
+    private final Ground ground = sun.ground;
+    private final Parting parting = new Parting();
     private final Planting planting = new Planting();
     private final Chance chance = new Chance();
     private final Sheets sheets = new Sheets();
@@ -203,8 +203,9 @@ public final class HillHours {
         // What is higher never takes less, and nothing at all takes nothing: so halving finds the height.
         int height = 0;
         for (int step = 16; step > 0; step >>= 1) {
-            if (height + step <= MOST_HEIGHT && takesAtMost(cell, height + step, d)) {
-                height += step;
+            if (height + step <= MOST_HEIGHT) {
+                weighLosses(cell, height + step);
+                height += mostLost() <= d ? step : 0;
             }
         }
         return height;
@@ -220,7 +221,7 @@ public final class HillHours {
             return NOT;
         }
         weighFall(cell);
-        parting.partAgain(yearsAfterFall, d);
+        parting.partAgain(ground, yearsAfterFall, d);
         return what == 0 ? parting.fewestMoved() : parting.partAfter();
     }
 
@@ -532,7 +533,7 @@ public final class HillHours {
 
     private void knowParts() {
         if (!partsKnown) {
-            parting.part(sun.years());
+            parting.part(ground, sun.years());
             partsKnown = true;
         }
     }
@@ -548,14 +549,12 @@ public final class HillHours {
         sun.build(cell, was);
     }
 
-    private boolean takesAtMost(int cell, int v, int d) {
-        weighLosses(cell, v);
-        for (int owner = 0; owner < OWNERS; owner++) {
-            if (losses[owner] > d) {
-                return false;
-            }
+    private int mostLost() {
+        int most = losses[0];
+        for (int owner = 1; owner < OWNERS; owner++) {
+            most = Math.max(most, losses[owner]);
         }
-        return true;
+        return most;
     }
 
     private void weighFall(int cell) {
@@ -599,27 +598,19 @@ public final class HillHours {
         int rings = 0;
         for (int a = 0; a < ground.cells(); a++) {
             for (int b = a + 1; b < ground.cells(); b++) {
-                if (owners[a] != owners[b]) {
-                    rings += countRingsOver(a, b);
+                for (int c = a + 1; c < ground.cells(); c++) {
+                    if (isRing(a, b, c)) {
+                        rings++;
+                    }
                 }
             }
         }
         return rings;
     }
 
-    private int countRingsOver(int a, int b) {
-        int rings = 0;
-        for (int c = b + 1; c < ground.cells(); c++) {
-            if (owners[c] != owners[a] && owners[c] != owners[b]) {
-                rings += isRing(a, b, c) ? 1 : 0;
-                rings += isRing(a, c, b) ? 1 : 0;
-            }
-        }
-        return rings;
-    }
-
     private boolean isRing(int a, int b, int c) {
-        return wouldRather(a, b) && wouldRather(b, c) && wouldRather(c, a);
+        boolean unlike = owners[a] != owners[b] && owners[b] != owners[c] && owners[c] != owners[a];
+        return unlike && wouldRather(a, b) && wouldRather(b, c) && wouldRather(c, a);
     }
 
     private boolean fitsAllSeen(int cell) {
@@ -773,15 +764,12 @@ public final class HillHours {
     private static final class Sun {
         private static final int EAST = -1, WEST = 1, HALF_BITS = 63;
 
-        private final Ground ground;
+        private final Ground ground = new Ground();
         private final int[] standing = new int[MOST_CELLS];
         private final int[] dayCounts = {90, 90, 90, 90};
         private final int[] lightBits = new int[MOST_CELLS * SEASONS];
+        private final int[] sunHours = new int[MOST_CELLS * SEASONS];
         private final int[] cellYears = new int[MOST_CELLS];
-
-        Sun(Ground ground) {
-            this.ground = ground;
-        }
 
         static int steepness(int season, int hour) {
             return (season + 1) * (hour < HALF_DAY ? hour + 1 : HOURS - hour);
@@ -837,24 +825,25 @@ public final class HillHours {
         }
 
         int hoursOf(int cell, int season) {
-            return Integer.bitCount(bitsOf(cell, season));
+            return sunHours[cell * SEASONS + season];
         }
 
         void measure() {
             for (int cell = 0; cell < ground.cells(); cell++) {
-                int year = 0;
                 for (int season = 0; season < SEASONS; season++) {
-                    lightBits[cell * SEASONS + season] = bitsAsBuilt(cell, season);
-                    year += hoursOf(cell, season) * dayCounts[season];
+                    int bits = bitsAsBuilt(cell, season);
+                    lightBits[cell * SEASONS + season] = bits;
+                    sunHours[cell * SEASONS + season] = Integer.bitCount(bits);
                 }
-                cellYears[cell] = year;
+                cellYears[cell] = yearAsBuilt(cell);
             }
         }
 
         int yearAsBuilt(int cell) {
             int year = 0;
             for (int season = 0; season < SEASONS; season++) {
-                year += Integer.bitCount(bitsAsBuilt(cell, season)) * dayCounts[season];
+                int dark = darkHours(cell, season, EAST) + darkHours(cell, season, WEST);
+                year += (HOURS - dark) * dayCounts[season];
             }
             return year;
         }
@@ -892,13 +881,13 @@ public final class HillHours {
         }
 
         private int reachOf(int cell, int side) {
-            int column = ground.columnOf(cell);
-            return side == EAST ? column : ground.columns() - 1 - column;
+            int column = ground.columnsOfCells[cell];
+            return side == EAST ? column : ground.columnCount - 1 - column;
         }
 
         private int rise(int cell, int away) {
             int other = cell + away;
-            return ground.heightOf(other) + standing[other] - ground.heightOf(cell);
+            return ground.heights[other] + standing[other] - ground.heights[cell];
         }
     }
 
@@ -906,10 +895,11 @@ public final class HillHours {
     private static final class Parting {
         private static final int HALF_CELLS = 6, HALF_SUMS = 64;
 
-        private final Ground ground;
         // The sum of a part is that of its low six cells and that of its high ones.
         private final int[] lowSums = new int[HALF_SUMS];
         private final int[] highSums = new int[HALF_SUMS];
+        private int cells;
+        private int columns;
         private int all;
         private int eastColumn;
         private int westColumn;
@@ -917,10 +907,6 @@ public final class HillHours {
         private int difference = NONE;
         private int firstAfter = NONE;
         private int moved = NONE;
-
-        Parting(Ground ground) {
-            this.ground = ground;
-        }
 
         int firstPart() {
             return first;
@@ -938,8 +924,8 @@ public final class HillHours {
             return moved;
         }
 
-        void part(int[] years) {
-            prepare(years);
+        void part(Ground ground, int[] years) {
+            prepare(ground, years);
             first = NONE;
             difference = NONE;
             for (int part = 1; part < all; part += 2) {
@@ -951,8 +937,8 @@ public final class HillHours {
             }
         }
 
-        void partAgain(int[] years, int d) {
-            prepare(years);
+        void partAgain(Ground ground, int[] years, int d) {
+            prepare(ground, years);
             firstAfter = NONE;
             moved = NONE;
             for (int part = 1; part < all; part += 2) {
@@ -964,15 +950,16 @@ public final class HillHours {
             }
         }
 
-        private void prepare(int[] years) {
-            int cells = ground.cells();
+        private void prepare(Ground ground, int[] years) {
+            cells = ground.cells();
+            columns = ground.columns();
             all = (1 << cells) - 1;
             eastColumn = 0;
             westColumn = 0;
             for (int cell = 0; cell < cells; cell++) {
                 int column = ground.columnOf(cell);
                 eastColumn |= column == 0 ? 1 << cell : 0;
-                westColumn |= column == ground.columns() - 1 ? 1 << cell : 0;
+                westColumn |= column == columns - 1 ? 1 << cell : 0;
             }
             fillSums(lowSums, years, 0);
             fillSums(highSums, years, HALF_CELLS);
@@ -982,7 +969,7 @@ public final class HillHours {
             sums[0] = 0;
             for (int i = 0; i < HALF_CELLS; i++) {
                 int cell = from + i;
-                int year = cell < ground.cells() ? years[cell] : 0;
+                int year = cell < cells ? years[cell] : 0;
                 for (int below = 0; below < 1 << i; below++) {
                     sums[below | 1 << i] = sums[below] + year;
                 }
@@ -1016,7 +1003,7 @@ public final class HillHours {
         private int nextTo(int part) {
             int west = (part & ~westColumn) << 1;
             int east = (part & ~eastColumn) >> 1;
-            return west | east | part << ground.columns() | part >> ground.columns();
+            return west | east | part << columns | part >> columns;
         }
     }
 

@@ -105,8 +105,10 @@ public final class ChangesTest {
         Check.due("22 one wants only what is best", x.change(4, 1), 0);
         Check.due("22 one pair less", x.changes(0), 2);
         Check.due("22 one way round", x.changes(1), 1);
-        x.owner(7, 0);
-        Check.due("22 no ring of two owners", x.changes(1), 0);
+        HillHours two = quarrel();
+        two.owner(7, 0);
+        Check.due("22 no ring of two owners", two.changes(1), 0);
+        Check.due("22 but two pairs", two.changes(0), 2);
         HillHours like = Check.hill("55;55;55");
         Check.own(like, 0, 1, 2, 3, 0, 1);
         Check.due("22 all alike, no ring", like.changes(1), 0);

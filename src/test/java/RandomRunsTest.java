@@ -9,6 +9,7 @@ import java.util.Random;
 public final class RandomRunsTest {
     private static final int RUNS = 2000;
     private static final int CALLS = 120;
+    private static final int QUARRELS = 2000;
     private static final int[] EDGES = {-1, -2, 8, 9, 10, 11, 12, 13, 16, 17, 20, 21, 48, 49, 90, 99, 100, 127, 128,
         255, 256, 900, 9999, 10000, 32768, 65536, 99999, 100000, Integer.MAX_VALUE, Integer.MIN_VALUE, Integer.MAX_VALUE - 3};
 
@@ -26,6 +27,51 @@ public final class RandomRunsTest {
             }
         }
         System.out.println(RUNS + " runs are as told plainly");
+        quarrels();
+    }
+
+    /** Pairs and rings are rare by chance, so there are hills whose owners have unlike wishes. */
+    private static void quarrels() {
+        int rings = 0;
+        int pairs = 0;
+        for (int n = 0; n < QUARRELS; n++) {
+            Random chance = new Random(-n);
+            HillHours x = new HillHours();
+            PlainHill plain = new PlainHill();
+            typeBoth(x, plain, wideHill(chance), new StringBuilder());
+            for (int c = 0; c < 12; c++) {
+                int owner = chance.nextInt(4);
+                int height = chance.nextInt(3) == 0 ? chance.nextInt(21) : 0;
+                x.owner(c, owner);
+                plain.owner(c, owner);
+                x.stand(c, height);
+                plain.stand(c, height);
+            }
+            for (int w = 0; w < 16; w++) {
+                int v = chance.nextInt(2) == 0 ? 0 : chance.nextInt(10);
+                x.worth(w / 4, w % 4, v);
+                plain.worth(w / 4, w % 4, v);
+            }
+            if (x.changes(0) != plain.changes(0) || x.changes(1) != plain.changes(1)) {
+                System.out.println("quarrel " + n + ": " + x.changes(0) + ", " + x.changes(1) + ", due are "
+                        + plain.changes(0) + ", " + plain.changes(1));
+                System.exit(1);
+            }
+            pairs += x.changes(0);
+            rings += x.changes(1);
+        }
+        System.out.println(QUARRELS + " quarrels with " + pairs + " pairs and " + rings + " rings are as told plainly");
+        if (pairs == 0 || rings == 0) {
+            System.exit(1);
+        }
+    }
+
+    private static String wideHill(Random chance) {
+        StringBuilder t = new StringBuilder();
+        for (int i = 0; i < 14; i++) {
+            t.append(i % 5 == 4 ? ';' : (char) ('0' + chance.nextInt(10)));
+        }
+        return t.toString();
     }
 
     private static boolean agrees(int run, List<Method> calls) throws Exception {
