@@ -71,6 +71,20 @@ public final class EdgesPartsTest extends Edges {
         parts(hill("55;55"), 0, 3);
     }
 
+    static void p15_parts_that_hang_by_the_longest_way() {
+        // Around cells 4, 5 and 6: from cell 0 by the west to cell 8, which is eight cells on.
+        HillHours x = hill("9263;9992;8040");
+        int[] roofs = {13, 0, 17, 15, 0, 0, 0, 0, 11, 0, 0, 18};
+        int[] days = {81, 0, 7, 0};
+        for (int cell = 0; cell < roofs.length; cell++) {
+            x.stand(cell, roofs[cell]);
+        }
+        for (int season = 0; season < days.length; season++) {
+            x.days(season, days[season]);
+        }
+        parts(x, 47, 15 + 128 + 256 + 512 + 1024 + 2048);
+    }
+
     static void p15_parts_all_ways_alike_in_a_year_without_days() {
         HillHours x = hill(EVEN);
         for (int season = 0; season < 4; season++) {
@@ -409,6 +423,26 @@ public final class EdgesPartsTest extends Edges {
         columns.stand(4, 20);
         is(columns.parts(1), 7);
         again(columns, 4, 360, 2, 11);
+    }
+
+    static void p18_again_the_least_bits_though_another_part_has_fewer_cells() {
+        // 49 would change two cells of part 19, too, and has three cells where 31 has five.
+        HillHours x = hill("4308;4612");
+        x.stand(0, 19);
+        x.stand(4, 20);
+        for (int season = 1; season < 4; season++) {
+            x.days(season, 0);
+        }
+        is(x.parts(1), 19);
+        again(x, 4, 720, 2, 31);
+    }
+
+    static void p18_again_the_least_bits_though_another_part_differs_less() {
+        // 25 would change two cells of part 11, too, and differ by 270 where 7 differs by d itself.
+        HillHours x = hill("128;467");
+        x.stand(0, 20);
+        is(x.parts(1), 11);
+        again(x, 0, 1170, 2, 7);
     }
 
     static void p18_again_cell_0_stays_in_the_first_part() {

@@ -202,6 +202,18 @@ public final class EdgesSunTest extends Edges {
         is(hill("60").light(1, 0), 4064);
     }
 
+    static void p12_light_with_shade_from_two_cells_away_and_from_three() {
+        is(hill("200").light(2, 0), 4095);
+        is(hill("300").light(2, 0), 4094);
+        is(hill("3000").light(3, 0), 4095);
+        is(hill("4000").light(3, 0), 4094);
+        is(hill("0003").light(0, 0), 4095);
+        is(hill("0004").light(0, 0), 2047);
+        // Only the far cell is high enough.
+        is(hill("9210").light(3, 0), 4092);
+        is(hill("9210").hours(3, NONE), (10 + 11 + 12 + 12) * 90);
+    }
+
     static void p12_light_the_last_cell_there_and_the_first_not_there() {
         is(vineyard().light(7, 3), 4095);
         refused(Edges::vineyard, BAD, x -> x.light(8, 0));

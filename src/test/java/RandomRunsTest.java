@@ -1,6 +1,7 @@
 import java.lang.reflect.Method;
 import java.lang.reflect.Modifier;
 import java.util.ArrayList;
+import java.util.Arrays;
 import java.util.Comparator;
 import java.util.List;
 import java.util.Random;
@@ -10,6 +11,7 @@ public final class RandomRunsTest {
     private static final int RUNS = 2000;
     private static final int CALLS = 120;
     private static final int QUARRELS = 2000;
+    private static final int FALLS = 400;
     private static final int[] EDGES = {-1, -2, 8, 9, 10, 11, 12, 13, 16, 17, 20, 21, 48, 49, 90, 99, 100, 127, 128,
         255, 256, 900, 9999, 10000, 32768, 65536, 99999, 100000, Integer.MAX_VALUE, Integer.MIN_VALUE, Integer.MAX_VALUE - 3};
 
@@ -28,6 +30,7 @@ public final class RandomRunsTest {
         }
         System.out.println(RUNS + " runs are as told plainly");
         quarrels();
+        falls();
     }
 
     /** Pairs and rings are rare by chance, so there are hills whose owners have unlike wishes. */
@@ -66,6 +69,46 @@ public final class RandomRunsTest {
         }
     }
 
+    /**
+     * That two ways to part again are alike is rare by chance, so there are hills with many roofs, with
+     * days that make cells unlike, and all roofs fall.
+     */
+    private static void falls() {
+        int moved = 0;
+        for (int n = 0; n < FALLS; n++) {
+            Random chance = new Random(1000000 + n);
+            HillHours x = new HillHours();
+            PlainHill plain = new PlainHill();
+            String text = n % 2 == 0 ? wideHill(chance) : wideHill(chance).substring(0, 9);
+            typeBoth(x, plain, text, new StringBuilder());
+            for (int c = 0; c < 12; c++) {
+                int height = chance.nextInt(3) > 0 ? 0 : 1 + chance.nextInt(20);
+                x.stand(c, height);
+                plain.stand(c, height);
+            }
+            for (int season = 0; season < 4; season++) {
+                int days = chance.nextInt(1 + season) == 0 ? 90 : 0;
+                x.days(season, days);
+                plain.days(season, days);
+            }
+            for (int c = 0; c < x.count(0); c++) {
+                int d = 90 * chance.nextInt(12);
+                long[] got = {x.parts(0), x.parts(1), x.again(c, d, 0), x.again(c, d, 1), x.highest(c, d)};
+                long[] due = {plain.parts(0), plain.parts(1), plain.again(c, d, 0), plain.again(c, d, 1), plain.highest(c, d)};
+                if (!Arrays.equals(got, due)) {
+                    System.out.println("fall " + n + ", " + text + ", cell " + c + ", d " + d + ": "
+                            + Arrays.toString(got) + ", due are " + Arrays.toString(due));
+                    System.exit(1);
+                }
+                moved += got[2] > 0 ? 1 : 0;
+            }
+        }
+        System.out.println(FALLS + " hills with " + moved + " falls after which cells change are as told plainly");
+        if (moved == 0) {
+            System.exit(1);
+        }
+    }
+
     private static String wideHill(Random chance) {
         StringBuilder t = new StringBuilder();
         for (int i = 0; i < 14; i++) {
@@ -100,7 +143,7 @@ public final class RandomRunsTest {
             Method same = PlainHill.class.getDeclaredMethod(call.getName(), call.getParameterTypes());
             long got = ((Number) call.invoke(x, args)).longValue();
             long due = ((Number) same.invoke(plain, args)).longValue();
-            story.append(call.getName()).append(java.util.Arrays.toString(args)).append(" -> ").append(got).append('\n');
+            story.append(call.getName()).append(Arrays.toString(args)).append(" -> ").append(got).append('\n');
             if (got != due) {
                 System.out.println("run " + run + ":\n" + story + "due is " + due);
                 return false;
